@@ -123,7 +123,6 @@ public final class Springseat {
     public int tie(int seat) throws IndexOutOfBoundsException, UnsupportedOperationException {
         Seat told = seatOf(seat);
         needNext(told, TIES);
-        told.frame.loosenTies();
         return told.steps.add(TIES);
     }
 
@@ -461,16 +460,15 @@ public final class Springseat {
         for (int i = 0; i < seats.size(); i++) {
             Seat told = seats.get(i);
             if (!told.steps.areInOrder() || !told.hasSoundTops() || !told.cover.fitsItsCloth()
-                    || !liesApart(i) || !sinksSoundly(told)) {
+                    || !liesApart(told.cover) || !sinksSoundly(told)) {
                 return false;
             }
         }
         return true;
     }
 
-    private boolean liesApart(int seat) {
-        Cover cover = seats.get(seat).cover;
-        for (int other = 0; other <= seat; other++) {
+    private boolean liesApart(Cover cover) {
+        for (int other = 0; other < seats.size(); other++) {
             if (cover.overlaps(seats.get(other).cover)) {
                 return false;
             }
@@ -705,7 +703,10 @@ public final class Springseat {
         }
     }
 
-    /** What is under the filling: webs, springs and ties. What is not there has numbers that change nothing. */
+    /**
+     * What is under the filling: webs, springs and ties. What is not there has the numbers that it
+     * begins with: webs and springs 0, ties as loose as can be.
+     */
     private static final class Frame {
         private final int columns;
         private final int rows;
@@ -825,7 +826,8 @@ public final class Springseat {
         }
 
         boolean quarrelsWith(Layer lower) {
-            return year != 0 && lower.year != 0 && year < lower.year;
+            // A lower one without a tack has a year of 0, and no year is less.
+            return year != 0 && year < lower.year;
         }
     }
 
@@ -1162,7 +1164,8 @@ public final class Springseat {
 
         int price() {
             int springs = hasSprings() ? frame.cellCount() : 0;
-            return 5 * springs + 2 * frame.pulledTies() + filling.price() + 4 * buttonCount() + cover.lengthInAll();
+            return 5 * springs + 2 * frame.pulledTies() + filling.price() + 4 * buttonCount()
+                    + cover.lengthInAll();
         }
 
         /** Tells how far each cell sinks under a body. */

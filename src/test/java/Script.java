@@ -36,7 +36,10 @@ final class Script {
         System.exit(wrong == 0 ? 0 : 1);
     }
 
-    /** The answer of a call such as "top(0, 11)", or "throws." and the exact name of the exception. */
+    /**
+     * The answer of a call such as "top(0, 11)", or "throws." and the exact name of the exception; it
+     * is told as one "from elsewhere" if it is not thrown by the class itself.
+     */
     static String answer(Object workshop, String call) {
         int bracket = call.indexOf('(');
         String inner = call.substring(bracket + 1, call.lastIndexOf(')')).trim();
@@ -53,7 +56,10 @@ final class Script {
         try {
             return String.valueOf(method.invoke(workshop, given));
         } catch (InvocationTargetException e) {
-            return "throws." + e.getCause().getClass().getSimpleName();
+            Throwable thrown = e.getCause();
+            String from = thrown.getStackTrace()[0].getClassName().replaceAll("\\$.*", "");
+            boolean isOwn = from.equals(workshop.getClass().getName());
+            return "throws." + thrown.getClass().getSimpleName() + (isOwn ? "" : " from elsewhere");
         } catch (IllegalAccessException e) {
             throw new AssertionError(e);
         }
