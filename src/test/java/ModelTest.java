@@ -42,7 +42,6 @@ public final class ModelTest {
                 return;
             }
         }
-        Script.same("run " + run + " at its end", Snapshot.of(workshop), Snapshot.of(model));
     }
 
     private int random(int count) {

@@ -1,10 +1,10 @@
 /** For each promise of the document: ordinary calls, the edges that it names, and wrong ones. */
 public final class PromisesTest {
-    private static final String NO_INDEX = " throws IndexOutOfBoundsException;";
-    private static final String WRONG = " throws IllegalArgumentException;";
-    private static final String NOT_NOW = " throws UnsupportedOperationException;";
-    private static final String FULL = " throws IllegalStateException;";
-    private static final String NONE = " throws NoSuchElementException;";
+    private static final String NO_INDEX = Script.NO_INDEX;
+    private static final String WRONG = Script.WRONG;
+    private static final String NOT_NOW = Script.NOT_NOW;
+    private static final String FULL = Script.FULL;
+    private static final String NONE = Script.NONE;
 
     /** Seat 0: 3 columns, 2 rows; webs of 4, springs 60 high of firmness 3, each step signed. */
     private static final String SEAT = "seat(3, 2) = 0;";
