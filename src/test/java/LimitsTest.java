@@ -363,8 +363,9 @@ public final class LimitsTest {
     private static void beyondTheSeat() {
         String body = SPRINGS + "layer(0, 'd', 60, 1) = 2; body() = 0;";
         for (int cell : new int[] {30, 31, 2, 12, 22, 32, 55}) {
-            Script.run("25 a great mass in " + cell + ", off the seat", body, "mass(0, " + cell + ", 99) = 0; sinks(0, 0, 20) = 0",
-                    "sinks(0, 0, 21) = 0; sinks(0, 0, 1) = 0; sinks(0, 0, 11) = 0; fit(0, 0, 0) = 0; isSound() = true");
+            Script.run("25 a great mass in " + cell + ", off the seat", body,
+                    "mass(0, " + cell + ", 99) = 0; sinks(0, 0, 20) = 0; sinks(0, 0, 21) = 0",
+                    "sinks(0, 0, 1) = 0; sinks(0, 0, 11) = 0; fit(0, 0, 0) = 0; isSound() = true");
             Script.run("27 a small mass in " + cell + ", off the seat", body, "mass(0, " + cell + ", 1) = 0; comfort(0, 0) = 0",
                     "mass(0, 21, 1) = 0; comfort(0, 0) = 1");
             Script.run("28 a mass in " + cell + ", off the seat, fits", body,
